@@ -248,7 +248,7 @@ public final class HandsHeld {
     if (!isSide(side)) {
       return NO_SUCH;
     }
-    return longest(side, house.must, 0);
+    return longest(aimAtSide(side), house.must);
   }
 
   public int roster(int side, int i) {
@@ -258,7 +258,7 @@ public final class HandsHeld {
     if (i < 0 || i > 99) {
       return CANT_BE;
     }
-    longest(side, house.must, 0);
+    longest(aimAtSide(side), house.must);
     return watch.setAt(steps, i);
   }
 
@@ -269,8 +269,7 @@ public final class HandsHeld {
     if (n < 0 || n > 10) {
       return CANT_BE;
     }
-    int own = house.ofSide(now.sides, side);
-    steps.aim(house, now, own);
+    int own = aimAtSide(side);
     return rows.inHours(steps, now.code(own), n, house.must);
   }
 
@@ -281,9 +280,9 @@ public final class HandsHeld {
     if (n < 1 || n > 20) {
       return CANT_BE;
     }
-    int hands = Integer.bitCount(house.ofSide(now.sides, side));
-    for (int must = hands; must > 0; must = must - 1) {
-      if (lastsFor(side, must, 0, n)) {
+    int own = aimAtSide(side);
+    for (int must = Integer.bitCount(own); must > 0; must = must - 1) {
+      if (lastsFor(n, own, must)) {
         return must;
       }
     }
@@ -297,14 +296,14 @@ public final class HandsHeld {
     if (n < 1 || n > 20) {
       return CANT_BE;
     }
-    if (!lastsFor(side, house.must, 0, n)) {
+    int own = aimAtSide(side);
+    if (!lastsFor(n, own, house.must)) {
       return 0;
     }
-    int own = house.ofSide(now.sides, side);
     int needed = 0;
     for (int p = 0; p < PERSONS; p = p + 1) {
       int bit = own & 1 << p;
-      if (bit != 0 && !lastsFor(side, house.must, bit, n)) {
+      if (bit != 0 && !lastsFor(n, own & ~bit, house.must)) {
         needed = needed | bit;
       }
     }
@@ -354,7 +353,7 @@ public final class HandsHeld {
 
   public int outcome() {
     fight();
-    return duel.result();
+    return duel.resultNow();
   }
 
   public int tells() {
@@ -496,7 +495,7 @@ public final class HandsHeld {
     if (refused != 0) {
       return refused;
     }
-    longest(side, house.must, 0);
+    longest(aimAtSide(side), house.must);
     return watch.listInto(steps, trays[tray]);
   }
 
@@ -604,8 +603,11 @@ public final class HandsHeld {
       return WHY_UNKNOWN;
     }
     int v = (int) deed;
-    if (v < SETS) {
-      return tryHour(moment, v);
+    if (v < CHANGE_DEEDS) {
+      if (v >= SETS || !isSet(v)) {
+        return WHY_UNKNOWN;
+      }
+      return house.tire(moment, v) ? 0 : WHY_WEAK;
     }
     if (v >= COLD_DEEDS) {
       moment.cold = v - COLD_DEEDS;
@@ -620,17 +622,6 @@ public final class HandsHeld {
     } else {
       moment.sides = moment.sides ^ 1 << p;
     }
-    return 0;
-  }
-
-  private int tryHour(Moment moment, int set) {
-    if (!isSet(set)) {
-      return WHY_UNKNOWN;
-    }
-    if ((set & ~moment.able()) != 0) {
-      return WHY_WEAK;
-    }
-    house.tire(moment, set);
     return 0;
   }
 
@@ -684,25 +675,30 @@ public final class HandsHeld {
     return now.code(house.everyone());
   }
 
-  private int longest(int side, int must, int banned) {
+  /** Who is on a side: only their strengths matter for rosters. */
+  private int aimAtSide(int side) {
     int own = house.ofSide(now.sides, side);
     steps.aim(house, now, own);
-    return watch.longest(steps, now.code(own), must, own & ~banned);
+    return own;
   }
 
-  private boolean lastsFor(int side, int must, int banned, int hours) {
-    int most = longest(side, must, banned);
+  private int longest(int allowed, int must) {
+    return watch.longest(steps, now.code(steps.who), must, allowed);
+  }
+
+  private boolean lastsFor(int hours, int allowed, int must) {
+    int most = longest(allowed, must);
     return most == NONE || most >= hours;
   }
 
   private void fight() {
-    aimAtAll();
+    steps.aim(house, now, house.everyone());
     walk.spread(steps, nowCode(), NONE, true);
     duel.fight(steps, walk, nowCode());
   }
 
   private void look(int tray) {
-    aimAtAll();
+    steps.aim(house, now, house.everyone());
     rows.look(steps, nowCode(), trays[tray]);
   }
 
@@ -762,7 +758,10 @@ public final class HandsHeld {
   }
 
   private static int clamped(long value, int least, int greatest) {
-    return (int) Math.max(least, Math.min(greatest, value));
+    if (value < least) {
+      return least;
+    }
+    return value > greatest ? greatest : (int) value;
   }
 
   /** The subset of a mask that comes next by number; 0 behind the last. */
@@ -832,21 +831,29 @@ public final class HandsHeld {
       if (top < 2) {
         return top;
       }
-      stack[top - 2] = joined(step, stack[top - 2], stack[top - 1]);
+      long a = stack[top - 2];
+      long b = stack[top - 1];
+      stack[top - 2] = step <= TIMES ? reckoned(step, a, b) : compared(step, a, b);
       return top - 1;
     }
 
-    private static int joined(int step, int a, int b) {
-      switch (step) {
-        case PLUS: return clamped((long) a + b, -MOST, MOST);
-        case MINUS: return clamped((long) a - b, -MOST, MOST);
-        case TIMES: return clamped((long) a * b, -MOST, MOST);
-        case EQUAL: return a == b ? 1 : 0;
-        case LESS: return a < b ? 1 : 0;
-        case MORE: return a > b ? 1 : 0;
-        case AND: return a & b;
-        default: return a | b;
+    private static int reckoned(int step, long a, long b) {
+      long exact = step == TIMES ? a * b : step == PLUS ? a + b : a - b;
+      return exact > MOST ? MOST : exact < -MOST ? -MOST : (int) exact;
+    }
+
+    private static int compared(int step, long a, long b) {
+      boolean holds = a != 0 || b != 0;
+      if (step == EQUAL) {
+        holds = a == b;
+      } else if (step == LESS) {
+        holds = a < b;
+      } else if (step == MORE) {
+        holds = a > b;
+      } else if (step == AND) {
+        holds = a != 0 && b != 0;
       }
+      return holds ? 1 : 0;
     }
   }
 
@@ -964,13 +971,20 @@ public final class HandsHeld {
       return code;
     }
 
-    void tire(Moment moment, int set) {
-      int code = codeAfter(moment, set, moment.cold);
-      for (int p = 0; p < PERSONS; p = p + 1) {
-        moment.strengths[p] = code % STRENGTHS;
-        code = code / STRENGTHS;
+    /**
+     * An hour with a set, if all of it can hold. Nobody tires by the strength of another one: so
+     * one after the other is the same as all at once.
+     */
+    boolean tire(Moment moment, int set) {
+      if ((set & ~moment.able()) != 0) {
+        return false;
+      }
+      int[] strengths = moment.strengths;
+      for (int p = 0; p < people && p < PERSONS; p = p + 1) {
+        strengths[p] = tiredTo(p, strengths[p], moment.sides, moment.cold, set);
       }
       moment.hours = moment.hours + 1;
+      return true;
     }
   }
 
@@ -1075,21 +1089,22 @@ public final class HandsHeld {
     int faultPlace = NONE;
     private byte[] text = new byte[0];
     private int length;
-    private int place;
-    private int start;
+    /** The tokens of a text, where each begins, and of numbers which; one more for the end. */
+    private final int[] tokens = new int[TAPE_ROOM + 1];
+    private final int[] starts = new int[TAPE_ROOM + 1];
+    private final int[] values = new int[TAPE_ROOM + 1];
+    private int at;
     private int token;
-    private int value;
     private Law law;
     private boolean inTires;
 
     void read(byte[] tape, int n, Hall into) {
-      text = tape;
-      length = Math.min(n, tape.length);
-      place = 0;
+      cut(tape, n);
       fault = 0;
       faultPlace = NONE;
+      at = 0;
+      token = tokens[0];
       into.clear();
-      next();
       word(HALL);
       word(MUST);
       into.must = number(PERSONS);
@@ -1102,34 +1117,19 @@ public final class HandsHeld {
       }
     }
 
-    private void refuse(int kind) {
-      if (fault == 0) {
-        fault = kind;
-        faultPlace = start;
-      }
-      token = BAD;
-    }
-
-    private void next() {
-      if (fault != 0) {
-        return;
-      }
-      for (int i = 0; i < MANY && isBlank(letterAt(place)); i = i + 1) {
-        place = place + 1;
-      }
-      start = place;
-      int letter = letterAt(place);
-      if (letter == NONE) {
-        token = OVER;
-      } else if (isSmall(letter)) {
-        readWord();
-      } else if (isDigit(letter)) {
-        readNumber();
-      } else if (SIGNS.indexOf((char) letter) >= 0) {
-        token = SIGN + letter;
-        place = place + 1;
-      } else {
-        refuse(NO_TOKEN);
+    /** Cuts a text into tokens, up to its end or to where none begins. */
+    private void cut(byte[] tape, int n) {
+      text = tape;
+      length = Math.min(n, tape.length);
+      int place = pastBlanks(0);
+      int last = PERSON;
+      for (int i = 0; i < tokens.length && last != OVER && last != BAD; i = i + 1) {
+        int end = endFrom(place);
+        last = tokenOf(place, end);
+        tokens[i] = last;
+        starts[i] = place;
+        values[i] = last == NUMBER ? valueOf(place, end) : 0;
+        place = pastBlanks(end);
       }
     }
 
@@ -1137,8 +1137,12 @@ public final class HandsHeld {
       return i >= 0 && i < length && i < text.length ? text[i] & 255 : NONE;
     }
 
-    private static boolean isBlank(int letter) {
-      return letter == 10 || letter == 32;
+    private int pastBlanks(int place) {
+      int i = place;
+      while (i < length && (letterAt(i) == 10 || letterAt(i) == 32)) {
+        i = i + 1;
+      }
+      return i;
     }
 
     private static boolean isSmall(int letter) {
@@ -1149,41 +1153,72 @@ public final class HandsHeld {
       return letter >= '0' && letter <= '9';
     }
 
-    private void readWord() {
-      for (int i = 0; i < MANY && isSmall(letterAt(place)); i = i + 1) {
-        place = place + 1;
+    /** Where the token that begins at a place ends: words and numbers go on as long as they can. */
+    private int endFrom(int place) {
+      boolean small = isSmall(letterAt(place));
+      boolean digit = isDigit(letterAt(place));
+      int i = place + 1;
+      while (i < length && (small && isSmall(letterAt(i)) || digit && isDigit(letterAt(i)))) {
+        i = i + 1;
       }
+      return i;
+    }
+
+    private int tokenOf(int place, int end) {
+      int letter = letterAt(place);
+      if (letter == NONE) {
+        return OVER;
+      }
+      if (isSmall(letter)) {
+        return wordOf(place, end);
+      }
+      if (isDigit(letter)) {
+        return end - place > 3 ? BAD : NUMBER;
+      }
+      return SIGNS.indexOf((char) letter) >= 0 ? SIGN + letter : BAD;
+    }
+
+    private int wordOf(int place, int end) {
       int index = 0;
-      int matched = 0;
+      int i = place;
       boolean same = true;
-      for (int i = 0; i < WORDS.length(); i = i + 1) {
-        char letter = WORDS.charAt(i);
+      for (int k = 0; k < WORDS.length(); k = k + 1) {
+        char letter = WORDS.charAt(k);
         if (letter != ' ') {
-          same = same && start + matched < place && letterAt(start + matched) == letter;
-          matched = matched + 1;
-        } else if (same && start + matched == place) {
-          token = index;
-          return;
+          same = same && i < end && letterAt(i) == letter;
+          i = i + 1;
+        } else if (same && i == end) {
+          return index;
         } else {
           index = index + 1;
-          matched = 0;
+          i = place;
           same = true;
         }
       }
-      token = UNKNOWN;
+      return UNKNOWN;
     }
 
-    private void readNumber() {
-      value = 0;
-      for (int i = 0; i < MANY && isDigit(letterAt(place)); i = i + 1) {
-        if (i < 3) {
-          value = 10 * value + letterAt(place) - '0';
-        }
-        place = place + 1;
+    private int valueOf(int place, int end) {
+      int value = 0;
+      for (int i = place; i < end; i = i + 1) {
+        value = 10 * value + letterAt(i) - '0';
       }
-      token = NUMBER;
-      if (place - start > 3) {
-        refuse(NO_TOKEN);
+      return value;
+    }
+
+    /** At a place where no token begins that is the fault, whatever was wanted there. */
+    private void refuse(int kind) {
+      if (fault == 0) {
+        fault = token == BAD ? NO_TOKEN : kind;
+        faultPlace = starts[at];
+      }
+      token = BAD;
+    }
+
+    private void next() {
+      if (fault == 0 && at + 1 < tokens.length) {
+        at = at + 1;
+        token = tokens[at];
       }
     }
 
@@ -1204,11 +1239,11 @@ public final class HandsHeld {
         refuse(MISPLACED);
         return 0;
       }
-      if (value > most) {
+      int told = values[at];
+      if (told > most) {
         refuse(OUT_OF_BOUNDS);
         return 0;
       }
-      int told = value;
       next();
       return told;
     }
@@ -1306,7 +1341,7 @@ public final class HandsHeld {
 
     private void atom(int depth) {
       if (token == NUMBER) {
-        put(value);
+        put(values[at]);
         next();
       } else if (token < HELD || token < VARIABLES && inTires) {
         put(Law.VARIABLE + token);
@@ -1442,6 +1477,8 @@ public final class HandsHeld {
     int people;
     int sets;
     int must;
+    /** Whose strengths are told. */
+    int who;
     /** Who belongs to side 0 and to side 1. */
     final int[] own = new int[2];
     /** Of the state one stands at: who can hold, whose hand would count. */
@@ -1451,7 +1488,6 @@ public final class HandsHeld {
     private int highRow;
     private int sides;
     private int cold;
-    private int who;
     private final int[] part = new int[PERSONS * STRENGTHS * SETS];
     private final boolean[] counts = new boolean[PERSONS * STRENGTHS];
     private final int[] low = new int[LOW_CODES * SETS];
@@ -1541,7 +1577,7 @@ public final class HandsHeld {
     }
 
     boolean stand(int set, int side) {
-      return hands(set & own[side & 1]) >= must;
+      return Integer.bitCount(set & counting & own[side & 1]) >= must;
     }
 
     static int strengthIn(int state, int p) {
@@ -1551,11 +1587,11 @@ public final class HandsHeld {
 
   /** How long enough hands can be held, from each state that can come. */
   private static final class Watch {
-    static final byte UNSEEN = 0;
-    static final byte OPEN = 1;
-    static final byte CLOSED = 2;
+    static final int UNSEEN = 0;
+    static final int OPEN = 1;
+    static final int CLOSED = 2;
 
-    private final byte[] mark = new byte[STATES];
+    private final int[] mark = new int[STATES];
     /** NONE: for ever. */
     private final int[] hours = new int[STATES];
     private final int[] pick = new int[STATES];
@@ -1669,7 +1705,7 @@ public final class HandsHeld {
       size = 0;
       goal = NONE;
       reach(start, 0, 0);
-      for (int i = 0; i < size; i = i + 1) {
+      for (int i = 0; i < size && i < STATES; i = i + 1) {
         int state = order[i];
         if (strength != NONE && allHave(state, strength, steps.people)) {
           goal = state;
@@ -1746,7 +1782,7 @@ public final class HandsHeld {
       best = firstBest(steps);
     }
 
-    int result() {
+    int resultNow() {
       return result[start];
     }
 
