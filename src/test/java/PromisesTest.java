@@ -206,6 +206,15 @@ public final class PromisesTest {
     fault("hall must 1; rod;", 2, 13);
     fault("hall must 1; persons side 0;", 2, 13);
     fault("hall must 1; perso side 0;", 2, 13);
+    fault("hall must 1; az 1;", 2, 13);
+    fault("hall must 1; zza 1;", 2, 13);
+    fault("hall must 1; `a 1;", 1, 13);
+    fault("hall must 1; {a 1;", 1, 13);
+    fault("hall must 1; cold /;", 1, 18);
+    fault("hall must 1; cold ?;", 1, 18);
+    fault("hall must 1; tires: hall;", 2, 20);
+    fault("hall must 1; tires: tires;", 2, 20);
+    fault("hall must 1; counts: hall = 1;", 2, 21);
     fault("hall must 1; person side 2;", 3, 25);
     fault("hall must 1; person side 0 strength 5;", 3, 36);
     fault("hall must 1; person side 0 weight 10;", 3, 34);
@@ -240,6 +249,11 @@ public final class PromisesTest {
     fault("hall must 1;counts:not not not not not not not 1=1;", 4, 43);
     fault("hall must 1;counts:[[[[[[[", 4, 25);
     fault("hall must 1;tires:((((((if 1", 4, 24);
+    due("six from if on", tell(new HandsHeld(), "hall must 1;tires:if [[[[[1=1]]]]] then "
+        + "(((((1))))) else (((((2))))) end;"), 2);
+    fault("hall must 1;tires:if [[[[[[1=1", 4, 26);
+    due("six from not on", tell(new HandsHeld(), "hall must 1;counts:not [[[[[1=1]]]]];"), 2);
+    due("nine hundred bytes", tell(new HandsHeld(), "hall must 1;tires:1" + "+1".repeat(440) + ";"), 2);
     due("beside", tell(new HandsHeld(),
         "hall must 1;tires:((((((1)))))) + ((((((1))))));"), 2);
   }
@@ -316,7 +330,9 @@ public final class PromisesTest {
     due("hour(9)", x.hour(9), -11);
     due("hour(8)", x.hour(8), -11);
     due("hour(-1)", x.hour(-1), -11);
-    due("hour(32)", x.hour(32), -11);
+    for (int set = 32; set < 80; set++) {
+      due("hour(" + set + ")", x.hour(set), -11);
+    }
     due("count(6)", x.count(6), 6);
     due("count(7)", x.count(7), 6);
     due("all must", of("hall must 0; person side 0;").hour(0), 3);
@@ -331,8 +347,10 @@ public final class PromisesTest {
     due("count(2)", x.count(2), 2);
     due("change(1)", x.change(1), 0);
     due("change(3)", x.change(3), -11);
-    due("change(-1)", x.change(-1), -11);
-    due("change(100)", x.change(100), -11);
+    for (int p = -60; p < 0; p++) {
+      due("change(" + p + ")", x.change(p), -11);
+      due("change(" + (3 - p) + ")", x.change(3 - p), -11);
+    }
     due("count(7)", x.count(7), 3);
     due("count(6)", x.count(6), 0);
   }
@@ -344,7 +362,10 @@ public final class PromisesTest {
     due("soup(1)", x.soup(1), 4);
     due("count(7)", x.count(7), 2);
     due("soup(3)", x.soup(3), -11);
-    due("soup(-1)", x.soup(-1), -11);
+    for (int p = -60; p < 0; p++) {
+      due("soup(" + p + ")", x.soup(p), -11);
+      due("soup(" + (3 - p) + ")", x.soup(3 - p), -11);
+    }
     due("count(3)", x.count(3), 9);
     due("count(7)", x.count(7), 2);
   }
@@ -356,7 +377,9 @@ public final class PromisesTest {
     due("cold(9)", x.cold(9), 0);
     due("cold(9)", x.cold(9), 9);
     due("cold(10)", x.cold(10), -11);
-    due("cold(-1)", x.cold(-1), -11);
+    for (int n = -70; n < 0; n++) {
+      due("cold(" + n + ")", x.cold(n), -11);
+    }
     due("count(5)", x.count(5), 9);
     due("count(7)", x.count(7), 3);
   }
@@ -644,9 +667,11 @@ public final class PromisesTest {
         "hall must 1; person side 0 strength 0; person side 1 strength 0;",
         "hall must 1; person side 0 strength 3;",
         "hall must 1; person side 1 strength 3;",
-        "hall must 2; person side 0; person side 0 strength 1; person side 1; person side 1;"};
+        "hall must 2; person side 0; person side 0 strength 1; person side 1; person side 1;",
+        "hall must 5; person side 0; person side 0; person side 0; person side 0; person side 0;",
+        "hall must 5; person side 1; person side 1; person side 1; person side 1; person side 1;"};
     int[][] want = {{1, 1, 4}, {0, 1, NONE}, {-1, 1, 3}, {0, 1, NONE}, {0, 0, NONE}, {1, 1, 1},
-        {-1, 0, 1}, {-1, 3, 2}};
+        {-1, 0, 1}, {-1, 3, 2}, {1, 31, 1}, {-1, 0, 1}};
     for (int i = 0; i < texts.length; i++) {
       HandsHeld x = of(texts[i]);
       promise = 25;
