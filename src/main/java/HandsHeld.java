@@ -120,7 +120,7 @@ public final class HandsHeld {
       return now.strengthOf(p);
     }
     if (what == 2) {
-      return house.weights[p];
+      return house.weightOf(p);
     }
     if (what == 3) {
       return house.rods >> p & 1;
@@ -796,13 +796,13 @@ public final class HandsHeld {
     }
 
     void copy(Law other) {
-      size = other.size;
+      size = Math.min(other.size, code.length);
       System.arraycopy(other.code, 0, code, 0, size);
     }
 
     int worked(int[] values, int[] stack) {
       int top = 0;
-      for (int i = 0; i < size; i = i + 1) {
+      for (int i = 0; i < size && i < code.length; i = i + 1) {
         int step = code[i];
         if (step >= PLUS) {
           top = operate(step, stack, top);
@@ -907,11 +907,15 @@ public final class HandsHeld {
       return (side == 1 ? sidesNow : ~sidesNow) & everyone();
     }
 
+    int weightOf(int p) {
+      return p >= 0 && p < PERSONS ? weights[p] : 0;
+    }
+
     private void tell(int p, int strength, int sidesNow, int coldNow) {
       values[Reader.PERSON] = p;
       values[Reader.SIDE] = sidesNow >> p & 1;
       values[Reader.STRENGTH] = strength;
-      values[Reader.WEIGHT] = weights[p];
+      values[Reader.WEIGHT] = weightOf(p);
       values[Reader.ROD] = rods >> p & 1;
       values[Reader.COLD] = coldNow;
     }
