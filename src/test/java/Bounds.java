@@ -140,12 +140,35 @@ abstract class Bounds {
     return told;
   }
 
+  /** An object that had another hall, as full as can be, and was asked what can come of it. */
+  static HandsHeld used() {
+    HandsHeld x = of("hall must 2;" + people(5, "person side 1 strength 2 weight 9 rod") + "cold 7;"
+        + "tires: strength + 1 - held * 2; counts: weight > 8;");
+    x.holds(1);
+    x.stands();
+    x.outcome();
+    tray(x, 3, 0, 2, NONE);
+    x.seen(3);
+    tray(x, 3, 0, 31, 31);
+    x.mean(3, 0);
+    return x;
+  }
+
+  /** A call answers on an object that had another hall as on one that had none. */
+  static void asOnANewObject(String text, String call, Call told) {
+    HandsHeld x = used();
+    tell(x, text);
+    HandsHeld fresh = tray(of(text), 3, 0, 31, 31);
+    due(call + " of " + text, told.on(x), told.on(fresh));
+  }
+
   static final String LIVED = "hall must 1; person side 0 strength 3; person side 0 strength 1;"
       + "person side 1 strength 2 weight 5; cold 4;";
 
   /**
    * Something of everything: three people of strengths 2, 0 and 3, the last on side 1; deeds that
-   * can be undone, an image, trays of several sorts, one of them missing, a fault, bytes on the tape.
+   * can be undone, an image, trays of several sorts, one of them missing, a fault, bytes on the
+   * tape.
    */
   static HandsHeld lived() {
     HandsHeld x = of(LIVED);

@@ -22,8 +22,8 @@ final class CanBeBounds extends Bounds {
   }
 
   static void promise21_aStrengthOf0CantHold() {
-    HandsHeld x = of("hall must 1; person side 0 strength 0; tires: if held = 1 then 4 else strength"
-        + " end;");
+    HandsHeld x = of("hall must 1; person side 0 strength 0;"
+        + " tires: if held = 1 then 4 else strength end;");
     due("stands()", x.stands(), 1);
     x.soup(0);
     due("stands()", x.stands(), 1);
@@ -70,7 +70,8 @@ final class CanBeBounds extends Bounds {
   static void promise22_itCantBe() {
     due("a rod", of("hall must 1; person side 0 rod strength 3;").rested(4), NONE);
     due("it could be", of("hall must 1; person side 0 rod strength 3;").rested(3), 0);
-    due("one of two", of("hall must 1; person side 0; person side 0 rod strength 0;").rested(1), NONE);
+    due("one of two", of("hall must 1; person side 0;"
+        + " person side 0 rod strength 0;").rested(1), NONE);
   }
 
   static void promise22_allAtTheSameTime() {
@@ -174,6 +175,8 @@ final class CanBeBounds extends Bounds {
     due("outcome() of " + text, x.outcome(), outcome);
     due("tells() of " + text, x.tells(), tells);
     due("ends() of " + text, x.ends(), ends);
+    due("tells() alone of " + text, of(text).tells(), tells);
+    due("ends() alone of " + text, of(text).ends(), ends);
     due("hours", x.count(6), 0);
     due("calls", x.count(7), 0);
   }
@@ -220,11 +223,11 @@ final class CanBeBounds extends Bounds {
   static void promise25_ratherBothAtOnceThanAlone() {
     // Two hands of one side spend all at once; one alone would only put off its loss.
     holdingOut("hall must 1; person side 0 strength 1; person side 0 strength 1; person side 1;"
-        + "tires: if side = 0 then strength - held else if others > 1 then 0 else strength end end;",
-        0, 3, NONE);
+        + "tires: if side = 0 then strength - held else if others > 1 then 0 else strength end"
+        + " end;", 0, 3, NONE);
     holdingOut("hall must 1; person side 0; person side 1 strength 1; person side 1 strength 1;"
-        + "tires: if side = 1 then strength - held else if others > 1 then 0 else strength end end;",
-        0, 1, NONE);
+        + "tires: if side = 1 then strength - held else if others > 1 then 0 else strength end"
+        + " end;", 0, 1, NONE);
   }
 
   static void promise25_sideOneKnowsWhatSideZeroTold() {
@@ -283,5 +286,71 @@ final class CanBeBounds extends Bounds {
         + "tires: if rod = 1 then strength else strength - held end;", 1, 1, 17);
     holdingOut("hall must 1; person side 1 rod;" + people(4, "person side 0")
         + "tires: if rod = 1 then strength else strength - held end;", -1, 2, 17);
+  }
+
+  private static final String[] HALLS = {"hall must 1; person side 0 strength 3; person side 1;",
+      "hall must 1; person side 0 strength 1; person side 1 rod; person side 0 strength 2;",
+      "hall must 1;", "hall must 2; person side 0; person side 1; person side 0; person side 1;",
+      "hall must 1; person side 0 strength 2; person side 0 rod; person side 1 strength 3;"
+          + "person side 0 strength 0; person side 1 strength 0; tires: strength - held;"};
+
+  static void promise21_anotherHallBeforeDoesntMatter() {
+    for (String text : HALLS) {
+      asOnANewObject(text, "stands()", HandsHeld::stands);
+      asOnANewObject(text, "steady()", HandsHeld::steady);
+      for (int n = 0; n <= 4; n++) {
+        int told = n;
+        asOnANewObject(text, "rested(" + n + ")", x -> x.rested(told));
+        asOnANewObject(text, "restBy(" + n + ", 0)", x -> x.restBy(told, 0));
+      }
+    }
+  }
+
+  static void promise25_anotherHallBeforeDoesntMatter() {
+    for (String text : HALLS) {
+      asOnANewObject(text, "outcome()", HandsHeld::outcome);
+      asOnANewObject(text, "tells()", HandsHeld::tells);
+      asOnANewObject(text, "ends()", HandsHeld::ends);
+    }
+  }
+
+  static void promise25_whoCantHoldDoesntStand() {
+    holdingOut("hall must 1; person side 1 strength 0; person side 0 strength 0;", 0, 0, NONE);
+    holdingOut("hall must 1; person side 1 strength 0; person side 1 strength 0;"
+        + " person side 0;", 1, 4, 1);
+    holdingOut("hall must 1; person side 0 strength 0; person side 0 strength 0;"
+        + " person side 1;", -1, 0, 1);
+  }
+
+  static void promise25_asItIsNow() {
+    HandsHeld x = of("hall must 1; person side 0 strength 2; person side 1 strength 1;"
+        + " tires: strength - held;");
+    due("outcome()", x.outcome(), 1);
+    x.soup(1);
+    due("outcome()", x.outcome(), -1);
+    due("ends()", x.ends(), 3);
+    x.soup(0);
+    due("outcome()", x.outcome(), 0);
+    due("ends()", x.ends(), NONE);
+    x.change(0);
+    due("outcome()", x.outcome(), -1);
+    due("ends()", x.ends(), 1);
+    x.change(0);
+    x.hour(2);
+    due("outcome()", x.outcome(), 1);
+    due("ends()", x.ends(), 4);
+    due("tells()", x.tells(), 1);
+  }
+
+  static void promise25_ofAllStrengthsOfFive() {
+    holdingOut("hall must 0;" + people(3, "person side 0") + people(2, "person side"
+        + " 1"), 0, 0, NONE);
+  }
+
+  static void promise26_whoCantHoldIsNotTold() {
+    holdingOut("hall must 1; person side 0 strength 0; person side 0;"
+        + " person side 1 strength 0;", 1, 2, 1);
+    holdingOut("hall must 1; person side 0 strength 0; person side 0 rod; person side 1 rod; tires:"
+        + " strength;", 0, 2, NONE);
   }
 }

@@ -1,6 +1,7 @@
 /** Boundary cases of promises 33 and 34: chance, mean. */
 final class ChanceBounds extends Bounds {
-  private static final String TWO = "hall must 1; person side 0 strength 2; person side 1 strength 1;";
+  private static final String TWO = "hall must 1; person side 0 strength 2;"
+      + " person side 1 strength 1;";
   private static final int[] NO_TRAYS = {-1, 4, LEAST, GREATEST};
 
   private static HandsHeld with(long... sets) {
@@ -179,7 +180,8 @@ final class ChanceBounds extends Bounds {
     mean(tray(x, 0, 0, 0, 0), 81, 25);
     // 4 times nine to the sixth of ten to the sixth.
     mean(tray(x, 0, 0, times(6, 0)), 531441, 250000);
-    mean(tray(of("hall must 1; person side 0 rod strength 1;"), 0, 0, times(6, 0)), 531441, 1000000);
+    mean(tray(of("hall must 1; person side 0 rod strength"
+        + " 1;"), 0, 0, times(6, 0)), 531441, 1000000);
   }
 
   static void promise34_whetherASideStandsOrNot() {
@@ -194,9 +196,24 @@ final class ChanceBounds extends Bounds {
 
   static void promise34_allTogether() {
     // 4 + 3 + 2 + 1 + 0 behind an hour of rods, each struck in one lot of ten.
-    HandsHeld x = of("hall must 1; person side 0 rod; person side 1 rod strength 3; person side 0 rod"
+    HandsHeld x = of("hall must 1; person side 0 rod; person side 1 rod strength 3;"
+        + " person side 0 rod"
         + " strength 2; person side 1 rod strength 1; person side 0 rod strength 0;");
     mean(tray(x, 0, 0, 15), 9, 1);
     mean(tray(x, 0, 0, 31), 9, 1);
+  }
+
+  static void promise33_anotherHallBeforeDoesntMatter() {
+    for (String text : new String[] {"hall must 1; person side 0 strength 3; person side 1;",
+        "hall must 1; person side 0 strength 1; person side 1 rod; person side 0 strength 2;"}) {
+      HandsHeld x = tray(used(), 0, 0, 3, 2, 1, 3);
+      tell(x, text);
+      HandsHeld fresh = tray(of(text), 0, 0, 3, 2, 1, 3);
+      for (int what = 0; what < 2; what++) {
+        due("chance(0, 0, " + what + ")", x.chance(0, 0, what), fresh.chance(0, 0, what));
+        due("chance(0, 1, " + what + ")", x.chance(0, 1, what), fresh.chance(0, 1, what));
+        due("mean(0, " + what + ")", x.mean(0, what), fresh.mean(0, what));
+      }
+    }
   }
 }

@@ -1,6 +1,7 @@
 /** Boundary cases of promises 8 to 15: hour, change, soup, cold, undo, judge, perform, winter. */
 final class DeedBounds extends Bounds {
-  private static final String TWO = "hall must 1; person side 0 strength 2; person side 1 strength 2;";
+  private static final String TWO = "hall must 1; person side 0 strength 2;"
+      + " person side 1 strength 2;";
 
   // ---- 8: hour
 
@@ -73,7 +74,8 @@ final class DeedBounds extends Bounds {
   }
 
   static void promise08_strengthsStayWithin0And4() {
-    HandsHeld x = of("hall must 1; person side 0; person side 0 strength 0; person side 1 strength 1;");
+    HandsHeld x = of("hall must 1; person side 0; person side 0 strength 0;"
+        + " person side 1 strength 1;");
     x.hour(4);
     due("strengths", strengths(x), 410);
     HandsHeld law = of("hall must 1; person side 0 strength 1; person side 1 strength 3;"
@@ -98,6 +100,14 @@ final class DeedBounds extends Bounds {
     }
     x.hour(4);
     due("count(6)", x.count(6), 20);
+  }
+
+  static void promise08_upToTheLastOf512Calls() {
+    HandsHeld x = new HandsHeld();
+    for (int i = 1; i <= 511; i++) {
+      due("hour(0)", x.hour(0), 0);
+    }
+    due("count(6)", x.count(6), 511);
   }
 
   // ---- 9: change
@@ -567,6 +577,19 @@ final class DeedBounds extends Bounds {
       tray(x, 1, 0, bad);
       due("perform(1) of " + bad, x.perform(1), 0);
     }
+  }
+
+  static void promise14_justOneDeedIsUndoneToo() {
+    HandsHeld x = tray(of(TWO), 0, 0, 65);
+    due("perform(0)", x.perform(0), 1);
+    due("count(7)", x.count(7), 1);
+    due("undo(1)", x.undo(1), 0);
+    due("count(5)", x.count(5), 0);
+    tray(x, 0, 0, 1, 70);
+    due("perform(0)", x.perform(0), 1);
+    due("count(7)", x.count(7), 1);
+    due("undo(1)", x.undo(1), 0);
+    due("strengths", strengths(x), 22);
   }
 
   // ---- 15: winter

@@ -1,4 +1,4 @@
-/** Boundary cases of promises 1 to 7 but for what a text may tell: a new object, feed to counted. */
+/** Boundary cases of promises 1 to 7 but for what a text may tell: new objects, feed, counted. */
 final class HallBounds extends Bounds {
   private static final String FIVE = "hall must 1;" + people(5, "person side 0");
 
@@ -228,7 +228,8 @@ final class HallBounds extends Bounds {
   }
 
   static void promise03_lawsOfAnOlderHallAreGone() {
-    HandsHeld x = of("hall must 1; person side 0 strength 2 weight 5 rod; tires: 0; counts: 1 = 2;");
+    HandsHeld x = of("hall must 1; person side 0 strength 2 weight 5 rod; tires: 0;"
+        + " counts: 1 = 2;");
     due("by(0, 0)", x.by(0, 0), 0);
     due("person(0, 4)", x.person(0, 4), 0);
     tell(x, "hall must 1; person side 0 strength 2;");
@@ -396,8 +397,8 @@ final class HallBounds extends Bounds {
   }
 
   static void promise06_withoutALawTheStrengthStaysWithin0And4() {
-    HandsHeld x = of("hall must 1; person side 0; person side 0 strength 1; person side 0 strength 0;"
-        + "person side 0 strength 3;");
+    HandsHeld x = of("hall must 1; person side 0; person side 0 strength 1;"
+        + " person side 0 strength 0;person side 0 strength 3;");
     due("by(0, 0)", x.by(0, 0), 4);
     due("by(1, 0)", x.by(1, 0), 3);
     due("by(2, 1)", x.by(2, 1), 0);
@@ -571,5 +572,96 @@ final class HallBounds extends Bounds {
     truth("3 > 3", 0);
     truth("4 > 3", 1);
     truth("3 > 4", 0);
+  }
+
+  static void promise07_andOrNotOfEachTruth() {
+    truth("1 = 1 and 1 = 1", 1);
+    truth("1 = 1 and 1 = 2", 0);
+    truth("1 = 2 and 1 = 1", 0);
+    truth("1 = 2 and 1 = 2", 0);
+    truth("1 = 1 or 1 = 1", 1);
+    truth("1 = 1 or 1 = 2", 1);
+    truth("1 = 2 or 1 = 1", 1);
+    truth("1 = 2 or 1 = 2", 0);
+    truth("not 1 = 1", 0);
+    truth("not 1 = 2", 1);
+    truth("not not 1 = 1", 1);
+    truth("not not not 1 = 1", 0);
+  }
+
+  static void promise07_andGoesAheadOfOrAndNotAheadOfBoth() {
+    truth("1 = 1 or 1 = 1 and 1 = 2", 1);
+    truth("1 = 2 and 1 = 1 or 1 = 1", 1);
+    truth("[1 = 1 or 1 = 1] and 1 = 2", 0);
+    truth("not 1 = 2 and 1 = 2", 0);
+    truth("not [1 = 2 and 1 = 2]", 1);
+    truth("not 1 = 1 or 1 = 1", 1);
+    truth("not [1 = 1 or 1 = 1]", 0);
+  }
+
+  /** One law within another, as many as may be: as true as the innermost. */
+  private static String within(int depth, int innermost) {
+    String all = "1 = 2 or 1 = 1 and 1 < 1 + 1 * " + innermost;
+    for (int i = 0; i < depth; i++) {
+      all = "1=2 or 1=1 and 1<1+1*if " + all + " then 1 else 0 end";
+    }
+    return all;
+  }
+
+  static void promise07_sixWithinOneAnotherAreWorkedOut() {
+    truth(within(6, 1), 1);
+    truth(within(6, 0), 0);
+    truth("not not not not not not 1 = 1", 1);
+    truth("[not [not [not 1 = 1]]]", 0);
+    tires("if " + within(5, 1) + " then 3 else 1 end", 3);
+    tires("if " + within(5, 0) + " then 3 else 1 end", 1);
+    tires("2 * (1 + (1 - (1 - (1 - (1 - (1 - 1))))))", 2);
+  }
+
+  static void promise06_asLongALawAsCanBeTold() {
+    tires("1" + "-1+1".repeat(213), 1);
+    tires("2" + "*1".repeat(425), 2);
+    HandsHeld x = of("hall must 1;person side 0;tires:9" + "-1".repeat(429) + "+425;");
+    due("by(0, 0)", x.by(0, 0), 4);
+    due("by(0, 0)", of("hall must 1;person side 0;tires:430" + "-1".repeat(428) + ";").by(0, 0), 2);
+  }
+
+  static void promise03_nothingOfOlderHallsIsLeft() {
+    HandsHeld x = used();
+    tell(x, "hall must 3;" + people(5, "person side 1 strength 1 weight 3 rod") + "cold 6;"
+        + " tires: 2;counts: 1 = 2;");
+    for (int i = 0; i < 2; i++) {
+      due("hall", tell(x, "hall must 2; person side 0; person side 1 strength 3;"), 3);
+      int[] want = {2, 2, 2, 7, 3, 0, 0, 0, 0, 3};
+      for (int what = 0; what < 10; what++) {
+        due("count(" + what + ")", x.count(what), want[what]);
+      }
+      int[] first = {0, 4, 1, 0, 1};
+      for (int what = 0; what < 5; what++) {
+        due("person(0, " + what + ")", x.person(0, what), first[what]);
+      }
+      due("by(1, 0)", x.by(1, 0), 3);
+      due("by(0, 1)", x.by(0, 1), 4);
+      due("counted(3, 0)", x.counted(3, 0), 1);
+    }
+  }
+
+  static void promise03_nothingOfAFaultyTextIsLeft() {
+    for (int i = 0; i < 2; i++) {
+      HandsHeld x = new HandsHeld();
+      for (int j = 0; j <= i; j++) {
+        due("hall", tell(x, "hall must 3;" + people(5, "person side 1 strength 1 weight 3 rod")
+            + "cold 6; tires: 2; counts: 1 = 2; cold 10;"), -33);
+      }
+      due("hall", tell(x, "hall must 2; person side 0;"), 2);
+      int[] want = {1, 2, 0, 4, 1, 0, 0, 0, 0, 2};
+      for (int what = 0; what < 10; what++) {
+        due("count(" + what + ")", x.count(what), want[what]);
+      }
+      due("person(0, 3)", x.person(0, 3), 0);
+      due("person(0, 4)", x.person(0, 4), 1);
+      due("by(1, 0)", x.by(1, 0), 3);
+      due("holds(0)", x.holds(0), 0);
+    }
   }
 }

@@ -40,8 +40,8 @@ final class RosterBounds extends Bounds {
   }
 
   static void promise16_forEverByTurnsOrNot() {
-    due("two by turns", of("hall must 1; person side 0 strength 1; person side 0 strength 1;").holds(0),
-        NONE);
+    due("two by turns", of("hall must 1; person side 0 strength 1;"
+        + " person side 0 strength 1;").holds(0), NONE);
     due("one and a weak one", of("hall must 1; person side 0 strength 1; person side 0 strength 0;")
         .holds(0), NONE);
     due("two of three", of("hall must 2;" + people(3, "person side 0 strength 1")).holds(0), 1);
@@ -49,10 +49,10 @@ final class RosterBounds extends Bounds {
   }
 
   static void promise16_theMostHoursAreFewUnderAHardLaw() {
-    due("all end", of("hall must 1;" + people(5, "person side 0") + "tires: strength - held;").holds(0),
-        20);
-    due("all tire", of("hall must 1;" + people(5, "person side 0") + "tires: strength - 1;").holds(0),
-        4);
+    due("all end", of("hall must 1;" + people(5, "person side 0") + "tires: strength -"
+        + " held;").holds(0), 20);
+    due("all tire", of("hall must 1;" + people(5, "person side 0") + "tires: strength -"
+        + " 1;").holds(0), 4);
   }
 
   static void promise16_nobodyOfTheOtherSideHolds() {
@@ -74,6 +74,66 @@ final class RosterBounds extends Bounds {
     due("count(6)", x.count(6), 0);
     due("count(7)", x.count(7), 0);
     due("person(0, 1)", x.person(0, 1), 3);
+  }
+
+  static void promise16_asTheColdIsNow() {
+    HandsHeld x = of("hall must 1; person side 0;"
+        + " tires: if cold > 4 then 0 else strength - held end;");
+    due("holds(0)", x.holds(0), 4);
+    x.cold(5);
+    due("holds(0)", x.holds(0), 1);
+    x.cold(4);
+    due("holds(0)", x.holds(0), 4);
+    x.undo(1);
+    due("holds(0)", x.holds(0), 1);
+    HandsHeld y = of("hall must 1; person side 0; cold 9; counts: cold < 9;");
+    due("holds(0)", y.holds(0), 0);
+    y.cold(8);
+    due("holds(0)", y.holds(0), 4);
+  }
+
+  static void promise16_asSidesAreNow() {
+    HandsHeld x = of("hall must 1; person side 0 strength 2; person side 1 strength 3;"
+        + " tires: strength - held;");
+    due("holds(0)", x.holds(0), 2);
+    x.change(1);
+    due("holds(0)", x.holds(0), 5);
+    due("holds(1)", x.holds(1), 0);
+    x.change(0);
+    due("holds(0)", x.holds(0), 3);
+    due("holds(1)", x.holds(1), 2);
+    x.undo(2);
+    due("holds(0)", x.holds(0), 2);
+  }
+
+  static void promise16_asStrengthsAreNow() {
+    HandsHeld x = of("hall must 1; person side 0 strength 2;");
+    due("holds(0)", x.holds(0), 2);
+    x.hour(1);
+    due("holds(0)", x.holds(0), 1);
+    x.hour(1);
+    due("holds(0)", x.holds(0), 0);
+    x.soup(0);
+    due("holds(0)", x.holds(0), 4);
+  }
+
+  private static final String[] HALLS = {"hall must 1; person side 0 strength 3; person side 1;",
+      "hall must 1; person side 0 strength 1; person side 1 rod; person side 0 strength 2;",
+      "hall must 1;", "hall must 2; person side 0; person side 1; person side 0; person side 1;",
+      "hall must 1; person side 0; person side 0; person side 1; person side 0 strength 0;"
+          + "person side 1 strength 0; tires: strength - held; counts: strength > 1;"};
+
+  static void promise16_anotherHallBeforeDoesntMatter() {
+    for (String text : HALLS) {
+      for (int side = 0; side < 2; side++) {
+        int told = side;
+        asOnANewObject(text, "holds(" + side + ")", x -> x.holds(told));
+        asOnANewObject(text, "roster(" + side + ", 1)", x -> x.roster(told, 1));
+        asOnANewObject(text, "rosters(" + side + ", 3)", x -> x.rosters(told, 3));
+        asOnANewObject(text, "most(" + side + ", 2)", x -> x.most(told, 2));
+        asOnANewObject(text, "needed(" + side + ", 3)", x -> x.needed(told, 3));
+      }
+    }
   }
 
   // ---- 17: roster

@@ -1,6 +1,7 @@
 /** Boundary cases of promises 28 to 32: seen, seenBy, surely, colds, attempt. */
 final class SeenBounds extends Bounds {
-  private static final String TWO = "hall must 1; person side 0 strength 2; person side 1 strength 1;";
+  private static final String TWO = "hall must 1; person side 0 strength 2;"
+      + " person side 1 strength 1;";
   private static final String RODS = "hall must 1;" + people(5, "person side 0 rod");
   private static final int[] NO_TRAYS = {-1, 4, 5, LEAST, GREATEST};
 
@@ -351,7 +352,8 @@ final class SeenBounds extends Bounds {
 
   static void promise32_fromNowOnNotFromBehindWhatWasTold() {
     // Person 1 tells the colds apart by holding now; behind the hour that was told it is rested.
-    HandsHeld x = of("hall must 1; person side 0; person side 1 strength 1; tires: if person = 1 and"
+    HandsHeld x = of("hall must 1; person side 0; person side 1 strength 1;"
+        + " tires: if person = 1 and"
         + " strength = 1 then if held * cold > 4 then 0 else 2 end else strength end;");
     due("colds(0, 0)", tray(x, 0, 0, 4).colds(0, 0), 0x3ff);
     due("attempt(0, 0)", x.attempt(0, 0), 2);
@@ -362,5 +364,87 @@ final class SeenBounds extends Bounds {
     HandsHeld x = of("hall must 1;" + people(5, "person side 0")
         + "tires: if held + mates = 5 then if cold > person * 2 then 1 else 2 end else 4 end;");
     due("attempt(0, 0)", tray(x, 0, 0, 4).attempt(0, 0), 31);
+  }
+
+  static void promise32_onlyTheColdsByWhichItWasSo() {
+    // Colds 0 and 1 by what was told: only person 1 tells them apart; person 2 all the others.
+    HandsHeld x = of("hall must 1; person side 0; person side 0; person side 0;"
+        + " tires: if person = 0"
+        + " then if cold < 2 then 3 else 2 end else if held = 0 then 4 else if person = 1 then"
+        + " if cold = 0 then 1 else 4 end else if cold > 1 then cold - 2 else 4 end end end end;");
+    due("colds(0, 0)", tray(x, 0, 0, 3).colds(0, 0), 3);
+    due("attempt(0, 0)", x.attempt(0, 0), 2);
+    due("colds(0, 0)", tray(x, 0, 0, 2).colds(0, 0), 0x3fc);
+    due("attempt(0, 0)", x.attempt(0, 0), 4);
+  }
+
+  static void promise32_coldsAtTheirBoundsAreToldApart() {
+    for (int cold = 0; cold <= 9; cold += 9) {
+      HandsHeld x = of("hall must 1; person side 0; person side 1;"
+          + " tires: if person = 1 and held = 1 and cold = " + cold + " then 0 else 4 end;");
+      due("colds(0, 0)", tray(x, 0, 0, 4).colds(0, 0), 0x3ff);
+      due("attempt(0, 0)", x.attempt(0, 0), 2);
+    }
+  }
+
+  static void promise32_whoIsHowStrongNotHowStrongTogether() {
+    // Persons 0 and 1 have 3 together by each cold, but not each as much.
+    HandsHeld x = of("hall must 1; person side 0; person side 0; person side 1;"
+        + " tires: if others = 0 or person = 2"
+        + " then 2 else if cold > 4 then 1 + person else 2 - person end end;");
+    due("colds(0, 0)", tray(x, 0, 0, 2).colds(0, 0), 0x3ff);
+    due("attempt(0, 0)", x.attempt(0, 0), 4);
+  }
+
+  static void promise32_theFirstAndTheFifthPersonTellTheColdsApart() {
+    for (int p = 0; p < 5; p += 4) {
+      HandsHeld x = of("hall must 1;" + people(5, "person side 0") + "tires: if person = " + p
+          + " and held + mates = 2 and cold > 4 then 1 else 4 end;");
+      due("attempt(0, 1)", tray(x, 0, 0, 4).attempt(0, 1), 3);
+    }
+  }
+
+  static void promise32_whoIsntThereTellsNothing() {
+    HandsHeld x = of("hall must 1; person side 0; person side 0;"
+        + " tires: if person > 1 and mates + others > 0 then cold else 4 end;");
+    due("attempt(0, 0)", tray(x, 0, 0, 4).attempt(0, 0), 0);
+  }
+
+  static void promise32_twoSetsAlikeTheFirst() {
+    // One cold of two each by set 1, one of two each by set 2 and 3, too.
+    HandsHeld x = of("hall must 1; person side 0; person side 0;"
+        + " tires: if held + mates = 0 then 4 else if cold > 4 then 3 else 2 end end;");
+    due("colds(0, 0)", tray(x, 0, 0, 2).colds(0, 0), 0x1f);
+    due("attempt(0, 0)", x.attempt(0, 0), 0);
+  }
+
+  static void promise31_theFifthPersonHolds() {
+    HandsHeld x = of("hall must 1;" + people(5, "person side 0")
+        + "tires: if held = 1 then cold else 4 end;");
+    for (int p = 0; p < 5; p++) {
+      due("colds(0, " + p + ")", tray(x, 0, 0, 2, 2).colds(0, p), 4);
+      due("colds(0, " + p + ")", tray(x, 0, 0, 0, 4, 0, 4).colds(0, p), 1);
+    }
+  }
+
+  private static final String[] HALLS = {"hall must 1; person side 0 strength 3; person side 1;",
+      "hall must 1; person side 0 strength 1; person side 1 rod; person side 0 strength 2;",
+      "hall must 1;", "hall must 2; person side 0; person side 1; person side 0; person side 1;"};
+
+  static void promise28_anotherHallBeforeDoesntMatter() {
+    for (String text : HALLS) {
+      for (int hands = -1; hands <= 4; hands++) {
+        int told = hands;
+        Maker used = () -> tray(used(), 0, 0, told, NONE, 1);
+        HandsHeld x = used.make();
+        tell(x, text);
+        HandsHeld fresh = tray(of(text), 0, 0, told, NONE, 1);
+        due("seen(0) of " + text, x.seen(0), fresh.seen(0));
+        due("surely(0) of " + text, x.surely(0), fresh.surely(0));
+        for (int i = 0; i < 3; i++) {
+          due("seenBy(0, " + i + ") of " + text, x.seenBy(0, i), fresh.seenBy(0, i));
+        }
+      }
+    }
   }
 }

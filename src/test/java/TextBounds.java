@@ -495,4 +495,11 @@ final class TextBounds extends Bounds {
     fault("hall must 1;counts:[[[[[[1=[", 2, 27);
     fault("hall must 1;counts:[[[[[[1 if", 2, 27);
   }
+
+  static void promise03_ofManyLawsTheLastStrikes() {
+    HandsHeld x = of("hall must 1;person side 0;" + "tires:1;".repeat(108) + "tires:2;");
+    due("by(0, 0)", x.by(0, 0), 2);
+    HandsHeld y = of("hall must 1;person side 0;" + "counts:1=1;".repeat(78) + "counts:1=2;");
+    due("person(0, 4)", y.person(0, 4), 0);
+  }
 }
