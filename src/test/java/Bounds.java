@@ -69,16 +69,18 @@ abstract class Bounds {
     }
   }
 
-  /** Feeds a text, blanks behind it up to a multiple of twenty. */
-  static void feed(HandsHeld x, String text) {
+  /** Feeds a text, blanks behind it up to a multiple of twenty: the last answer. */
+  static int feed(HandsHeld x, String text) {
+    int last = 0;
     for (int at = 0; at < text.length(); at += 20) {
       int[] five = new int[5];
       for (int i = 0; i < 20; i++) {
         int c = at + i < text.length() ? text.charAt(at + i) : ' ';
         five[i / 4] = five[i / 4] << 8 | c;
       }
-      x.feed(five[0], five[1], five[2], five[3], five[4]);
+      last = x.feed(five[0], five[1], five[2], five[3], five[4]);
     }
+    return last;
   }
 
   static int tell(HandsHeld x, String text) {

@@ -48,21 +48,6 @@ public final class ModelTest {
     }
   }
 
-  static int feedAll(HandsHeld x, String text) {
-    int fed = 0;
-    int last = 0;
-    while (fed < text.length()) {
-      int[] five = new int[5];
-      for (int i = 0; i < 20; i++) {
-        int c = fed + i < text.length() ? text.charAt(fed + i) : 32;
-        five[i / 4] = five[i / 4] << 8 | c & 255;
-      }
-      last = x.feed(five[0], five[1], five[2], five[3], five[4]);
-      fed += 20;
-    }
-    return last;
-  }
-
   /** Texts with something struck out, doubled or put in. */
   static void faults(Random random, int times) {
     for (int i = 0; i < times && wrong < 20; i++) {
@@ -84,7 +69,7 @@ public final class ModelTest {
       HandsHeld x = new HandsHeld();
       Parser parser = new Parser(text.toString());
       List<String> log = new ArrayList<>();
-      feedAll(x, text.toString());
+      Bounds.feed(x, text.toString());
       int want = parser.fault == 0 ? parser.house.lines : -30 - parser.fault;
       due(log, "hall of: " + text, x.hall(text.length()), want);
       due(log, "fault(0)", x.fault(0), parser.fault);
@@ -1121,7 +1106,7 @@ public final class ModelTest {
         text = text.substring(0, random.nextInt(text.length()));
       }
       log.add("feed: " + text.replace("\n", "\\n"));
-      int fed = feedAll(x, text);
+      int fed = Bounds.feed(x, text);
       check("count(8)", x.count(8), fed);
       if (random.nextInt(10) == 0) {
         check("hall(-1)", x.hall(-1), -3);

@@ -30,7 +30,8 @@ public final class NeverThrowsTest {
         if (call % 64 == 3 && random.nextInt(4) > 0) {
           String text = text(random);
           log.add("hall of " + text);
-          feed(x, text);
+          x.hall(0);
+          Bounds.feed(x, text);
           x.hall(text.length());
           continue;
         }
@@ -95,17 +96,5 @@ public final class NeverThrowsTest {
       }
     }
     return text.toString();
-  }
-
-  private static void feed(HandsHeld x, String text) {
-    x.hall(0);
-    for (int at = 0; at < text.length(); at += 20) {
-      int[] five = new int[5];
-      for (int i = 0; i < 20; i++) {
-        int c = at + i < text.length() ? text.charAt(at + i) : ' ';
-        five[i / 4] = five[i / 4] << 8 | c;
-      }
-      x.feed(five[0], five[1], five[2], five[3], five[4]);
-    }
   }
 }

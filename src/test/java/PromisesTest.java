@@ -54,21 +54,8 @@ public final class PromisesTest {
     }
   }
 
-  private static int feed(HandsHeld x, String text) {
-    int last = 0;
-    for (int at = 0; at < text.length(); at += 20) {
-      int[] five = new int[5];
-      for (int i = 0; i < 20; i++) {
-        int c = at + i < text.length() ? text.charAt(at + i) : ' ';
-        five[i / 4] = five[i / 4] << 8 | c;
-      }
-      last = x.feed(five[0], five[1], five[2], five[3], five[4]);
-    }
-    return last;
-  }
-
   private static int tell(HandsHeld x, String text) {
-    feed(x, text);
+    Bounds.feed(x, text);
     return x.hall(text.length());
   }
 
@@ -135,7 +122,7 @@ public final class PromisesTest {
     due("count(9)", x.count(9), 4);
     x.hour(1);
     x.cold(4);
-    feed(x, "hall must 2;");
+    Bounds.feed(x, "hall must 2;");
     due("hall(-1)", x.hall(-1), -3);
     due("hall(21)", x.hall(21), -3);
     due("count(8)", x.count(8), 20);
@@ -148,7 +135,7 @@ public final class PromisesTest {
     due("hall(1)", x.hall(1), -3);
     due("hall(0)", x.hall(0), -32);
     due("fault(1)", x.fault(1), 0);
-    feed(x, "hall must 2;person side 1 rod;cold 7;");
+    Bounds.feed(x, "hall must 2;person side 1 rod;cold 7;");
     due("hall(12)", x.hall(12), 1);
     due("count(8)", x.count(8), 0);
     due("count(0)", x.count(0), 0);
@@ -980,7 +967,7 @@ public final class PromisesTest {
     due("hour(1)", x.hour(1), 1);
     due("holds(1)", x.holds(1), 3);
     due("perform(0)", x.perform(0), 1);
-    feed(x, "hall");
+    Bounds.feed(x, "hall");
     due("restore(0)", x.restore(0), 0);
     due("count(8)", x.count(8), 20);
     due("count(0)", x.count(0), 1);
@@ -1000,7 +987,7 @@ public final class PromisesTest {
     promise = 40;
     HandsHeld x = of("hall must 3; person side 0 strength 0; person side 1 strength 2; cold 6;");
     x.hour(2);
-    feed(x, "1");
+    Bounds.feed(x, "1");
     int[] want = {2, 3, 2, 2, 3, 6, 1, 1, 20, 4};
     for (int what = 0; what < 10; what++) {
       due("count(" + what + ")", x.count(what), want[what]);
