@@ -32,6 +32,14 @@ final class CanBeBounds extends Bounds {
     due("stands()", one.stands(), 2);
   }
 
+  static void promise21_theWeakRestWhileOthersHold() {
+    // All grow by one each hour, whoever holds: who is at 0 can't stay there.
+    due("two", of("hall must 1; person side 0 strength 0; person side 1 strength 0;"
+        + " tires: strength + 1;").stands(), 5);
+    due("two", of("hall must 1; person side 0 strength 0; person side 1 strength 1;"
+        + " tires: strength + 1;").stands(), 5);
+  }
+
   static void promise21_whetherASideStandsOrNot() {
     due("stands()", of("hall must 5; person side 0; counts: 1 = 2;").stands(), 5);
   }
@@ -154,6 +162,15 @@ final class CanBeBounds extends Bounds {
     due("no people", new HandsHeld().steady(), 1);
   }
 
+  static void promise24_eachStrengthNotAllTogether() {
+    // One less for the one, one more for the other.
+    HandsHeld x = of("hall must 1; person side 0 strength 2; person side 1 strength 2;");
+    due("steady()", x.steady(), 0);
+    // Only if both hold they don't change with one another.
+    due("steady()", of("hall must 1; person side 0 strength 1; person side 1 strength 2;"
+        + " tires: if held = 1 then strength else 2 - person end;").steady(), 1);
+  }
+
   static void promise24_onlySetsThatCanHold() {
     due("strength 0", of("hall must 1; person side 0 rod strength 0;").steady(), 1);
     due("strength 1", of("hall must 1; person side 0 rod strength 1;").steady(), 2);
@@ -268,6 +285,28 @@ final class CanBeBounds extends Bounds {
         + "tires: if rod = 1 then strength else strength - 1 end;", -1, 1, 4);
     holdingOut("hall must 1; person side 0 strength 1; person side 0 strength 3; person side 1 rod;"
         + "tires: if rod = 1 then strength else strength - 1 - mates end;", -1, 2, 4);
+  }
+
+  static void promise25_handsCountAsAllIsAheadOfEachHour() {
+    holdingOut("hall must 1; person side 0; person side 1 rod; counts: rod = 1 or strength > 2;",
+        -1, 1, 3);
+    holdingOut("hall must 1; person side 0 rod; person side 1; counts: rod = 1 or strength > 2;",
+        1, 1, 3);
+  }
+
+  static void promise27_asSoonAsTheWinnerCan() {
+    // Both hands of side 1 at once spend side 0, one alone would take longer.
+    holdingOut("hall must 1; person side 0 strength 3; person side 1 rod; person side 1 rod;"
+        + "tires: if rod = 1 then strength else if others > 1 then 0 else strength - held end end;",
+        -1, 1, 2);
+    holdingOut("hall must 1; person side 0; person side 1; person side 1; tires: 2 - others;",
+        -1, 1, 2);
+  }
+
+  static void promise27_asLateAsTheLoserCanBothFirst() {
+    // Person 1 keeps its strength while both hold, person 2 falls by one; then person 1 alone.
+    holdingOut("hall must 1; person side 0; person side 1; person side 1;"
+        + " tires: strength - person + mates;", 1, 1, 9);
   }
 
   static void promise27_neitherLosesAlone() {

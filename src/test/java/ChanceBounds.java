@@ -86,6 +86,15 @@ final class ChanceBounds extends Bounds {
         81, 100);
   }
 
+  static void promise33_handsCountAsAllIsAheadOfEachHour() {
+    HandsHeld x = of("hall must 1; person side 0; person side 0 rod; counts: strength > 3;");
+    chance(tray(x, 0, 0, 1), 0, 1, 1);
+    chance(tray(x, 0, 0, 1, 1), 0, 0, 1);
+    chance(tray(x, 0, 0, 3, 3), 0, 9, 10);
+    // Behind the first hour the lot must fall on neither, behind the second not on person 0.
+    chance(tray(x, 0, 0, 3, 2, 1), 0, 18, 25);
+  }
+
   static void promise33_theLotBehindTheLastHourDoesntMatter() {
     HandsHeld x = of("hall must 1; person side 0 rod;");
     chance(tray(x, 0, 0, 1), 0, 1, 1);

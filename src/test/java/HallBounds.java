@@ -357,6 +357,20 @@ final class HallBounds extends Bounds {
     x.hour(1);
     due("person(0, 1)", x.person(0, 1), 0);
     due("person(0, 4)", x.person(0, 4), 0);
+    x.change(0);
+    due("person(0, 0)", x.person(0, 0), 1);
+    x.undo(1);
+    due("person(0, 0)", x.person(0, 0), 0);
+    HandsHeld sides = of("hall must 1; person side 0; counts: side = 1;");
+    due("person(0, 4)", sides.person(0, 4), 0);
+    sides.change(0);
+    due("person(0, 4)", sides.person(0, 4), 1);
+  }
+
+  static void promise05_theLawAloneTellsWhetherAHandWouldCount() {
+    due("without a law", of("hall must 1; person side 0 strength 0;").person(0, 4), 1);
+    due("by a law", of("hall must 1; person side 0 strength 0; counts: strength < 1;").person(0, 4),
+        1);
   }
 
   // ---- 6: by
@@ -587,6 +601,10 @@ final class HallBounds extends Bounds {
     truth("not 1 = 2", 1);
     truth("not not 1 = 1", 1);
     truth("not not not 1 = 1", 0);
+    truth("1 = 2 or 1 = 2 or 1 = 1", 1);
+    truth("1 = 2 or 1 = 2 or 1 = 2 or 1 = 1", 1);
+    truth("1 = 1 and 1 = 1 and 1 = 2", 0);
+    truth("1 = 1 and 1 = 1 and 1 = 1 and 1 = 1", 1);
   }
 
   static void promise07_andGoesAheadOfOrAndNotAheadOfBoth() {

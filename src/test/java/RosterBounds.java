@@ -68,6 +68,46 @@ final class RosterBounds extends Bounds {
     due("roster(0, 0)", x.roster(0, 0), 3);
   }
 
+  static void promise16_handsCountAsAllIsAheadOfEachHour() {
+    HandsHeld x = of("hall must 1; person side 0; counts: strength > 2;");
+    due("holds(0)", x.holds(0), 2);
+    due("roster(0, 1)", x.roster(0, 1), 1);
+    due("roster(0, 2)", x.roster(0, 2), NONE);
+    HandsHeld late = of("hall must 1; person side 0; counts: strength < 4;");
+    due("holds(0)", late.holds(0), 0);
+    late.hour(1);
+    due("holds(0)", late.holds(0), 3);
+  }
+
+  /**
+   * The strengths count down like the digits of a number, person 0's the lowest: if 0 to p hold,
+   * p's falls by one and those below are 4 again; who holds in other ways falls to 0. So those
+   * below can go down to 1 each time, and to 0 behind p's last.
+   */
+  static void promise16_manyHours() {
+    String law = "tires: if held + mates > person + 1 then 4 else if held + mates = person + 1 then"
+        + " strength - held else strength * (1 - held) end end;";
+    int[] hours = {4, 20, 84, 340, 1364};
+    for (int n = 1; n <= 5; n++) {
+      HandsHeld x = of("hall must 1;" + people(n, "person side 1") + law);
+      due("holds(1) of " + n, x.holds(1), hours[n - 1]);
+    }
+    HandsHeld x = of("hall must 1;" + people(5, "person side 1") + law);
+    due("roster(1, 2)", x.roster(1, 2), 1);
+    due("roster(1, 3)", x.roster(1, 3), 3);
+    due("roster(1, 15)", x.roster(1, 15), 7);
+    due("roster(1, 63)", x.roster(1, 63), 15);
+    due("roster(1, 99)", x.roster(1, 99), 3);
+    due("most(1, 4)", x.most(1, 4), 5);
+    due("most(1, 20)", x.most(1, 20), 4);
+    tray(x, 0, 0, times(40, 0));
+    due("lists(0, 1)", x.lists(0, 1), 40);
+    for (int i = 0; i < 300; i++) {
+      due("hour", x.hour(x.roster(1, 0)), 2);
+    }
+    due("holds(1)", x.holds(1), 1064);
+  }
+
   static void promise16_nothingIsDone() {
     HandsHeld x = of(ONE);
     x.holds(0);
@@ -255,6 +295,15 @@ final class RosterBounds extends Bounds {
     due("rosters(0, 2)", of("hall must 1;" + people(2, "person side 0")).rosters(0, 2), 9);
   }
 
+  static void promise18_onlyHandsThatCountMakeItStand() {
+    HandsHeld x = of("hall must 1; person side 0; person side 0 weight 2; counts: weight = 2;");
+    due("rosters(0, 1)", x.rosters(0, 1), 2);
+    due("rosters(0, 3)", x.rosters(0, 3), 8);
+    HandsHeld tired = of("hall must 1; person side 0; counts: strength > 2;");
+    due("rosters(0, 2)", tired.rosters(0, 2), 1);
+    due("rosters(0, 3)", tired.rosters(0, 3), 0);
+  }
+
   static void promise18_asManyAsThereCanBe() {
     HandsHeld x = of("hall must 0;" + people(5, "person side 0 rod"));
     due("rosters(0, 10)", x.rosters(0, 10), 1L << 50);
@@ -312,6 +361,12 @@ final class RosterBounds extends Bounds {
         + "person side 0 strength 3; tires: strength - held;");
     due("most(0, 19)", less.most(0, 19), 1);
     due("most(0, 20)", less.most(0, 20), 0);
+  }
+
+  static void promise19_onlyHandsThatCount() {
+    HandsHeld x = of("hall must 1; person side 0; person side 0; counts: strength > person * 2;");
+    due("most(0, 2)", x.most(0, 2), 2);
+    due("most(0, 3)", x.most(0, 3), 1);
   }
 
   static void promise19_whateverMustBeHeld() {

@@ -172,6 +172,13 @@ final class SeenBounds extends Bounds {
     due("seenBy(0, 1)", other.seenBy(0, 1), 3);
   }
 
+  static void promise29_theFirstOfThoseThatComeToTheSame() {
+    HandsHeld x = tray(of(RODS), 0, 0, 2, NONE, 3);
+    due("seenBy(0, 0)", x.seenBy(0, 0), 3);
+    due("seenBy(0, 1)", x.seenBy(0, 1), 0);
+    due("seenBy(0, 2)", x.seenBy(0, 2), 7);
+  }
+
   static void promise29_allFiveAsBits() {
     due("seenBy(0, 7)", tray(of(RODS), 0, 0, times(8, 5)).seenBy(0, 7), 31);
   }
@@ -357,6 +364,16 @@ final class SeenBounds extends Bounds {
         + " strength = 1 then if held * cold > 4 then 0 else 2 end else strength end;");
     due("colds(0, 0)", tray(x, 0, 0, 4).colds(0, 0), 0x3ff);
     due("attempt(0, 0)", x.attempt(0, 0), 2);
+  }
+
+  static void promise32_fromTheStrengthOfThePersonNow() {
+    // Only while person 0 has a strength of 4 a hand of person 1 tells the colds apart.
+    HandsHeld x = of("hall must 1; person side 0; person side 0; tires: if person = 0 and mates = 1"
+        + " and strength = 4 then if cold > 4 then 1 else 0 end else 2 end;");
+    due("colds(0, 0)", tray(x, 0, 0, 2).colds(0, 0), 0x3ff);
+    due("attempt(0, 0)", x.attempt(0, 0), 2);
+    x.hour(1);
+    due("attempt(0, 0)", x.attempt(0, 0), 0);
   }
 
   static void promise32_theLastSetOfAll() {
