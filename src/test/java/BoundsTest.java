@@ -3,7 +3,7 @@ import java.util.List;
 
 /** Runs every test of the boundary cases, and sees to it that each promise has some. */
 public final class BoundsTest {
-  private static final Class<?>[] TESTS = {HallBounds.class, TextBounds.class, DeedBounds.class,
+  static final Class<?>[] TESTS = {HallBounds.class, TextBounds.class, DeedBounds.class,
       RosterBounds.class, CanBeBounds.class, SeenBounds.class, ChanceBounds.class,
       TrayBounds.class};
   private static final int PROMISES = 40;

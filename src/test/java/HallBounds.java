@@ -512,6 +512,47 @@ final class HallBounds extends Bounds {
     due("by(16, 4)", others.by(16, 4), 0);
   }
 
+  static void promise06_eachWordOfALawTellsItsValue() {
+    String text = "hall must 1; cold 3; person side 1 strength 2 weight 4; person side 0 rod;"
+        + " person side 1 strength 3 rod weight 0; tires: ";
+    String[] words = {"person", "side", "strength", "weight", "rod", "cold"};
+    int[][] want = {{0, 1, 2}, {1, 0, 1}, {2, 4, 3}, {4, 1, 0}, {0, 1, 1}, {3, 3, 3}};
+    for (int i = 0; i < words.length; i++) {
+      HandsHeld x = of(text + words[i] + ";");
+      for (int p = 0; p < 3; p++) {
+        due(words[i] + " of " + p, x.by(5, p), want[i][p]);
+      }
+      HandsHeld y = of(text + "0; counts: " + words[i] + " = " + want[i][2] + ";");
+      due("counts by " + words[i], y.person(2, 4), 1);
+    }
+    HandsHeld x = of(text + "side * 2 + cold - 4;");
+    x.cold(5);
+    due("by(0, 0)", x.by(0, 0), 3);
+    x.change(0);
+    due("by(0, 0)", x.by(0, 0), 1);
+  }
+
+  static void promise06_theSignsGoFromTheLeftTimesFirst() {
+    tires("5 - 2 - 1", 2);
+    tires("5 - 2 + 1", 4);
+    tires("9 - 2 * 3", 3);
+    tires("2 * 3 - 4", 2);
+    tires("9 - 2 * 2 * 2 + 1", 2);
+    tires("9 - (2 + 2) * 2", 1);
+    tires("9 - (2 + 2 * 3)", 1);
+    tires("9 - (7 - 2) - 1", 3);
+  }
+
+  static void promise06_anIfTellsTheOneOrTheOther() {
+    tires("if 1 = 1 then 2 else 3 end", 2);
+    tires("if 1 = 2 then 2 else 3 end", 3);
+    tires("if 1 = 1 then 2 else 3 end + 1", 3);
+    tires("2 * if 1 = 2 then 2 else 1 end", 2);
+    tires("if 1 = 1 then if 1 = 2 then 1 else 2 end else 3 end", 2);
+    tires("if if 1 = 1 then 2 else 3 end = 2 then 1 else 4 end", 1);
+    tires("if 1 < 2 and 2 < 3 then 1 + 1 else 3 - 2 end", 2);
+  }
+
   static void promise06_theHourIsNotDone() {
     HandsHeld x = lived();
     HandsHeld twin = lived();
