@@ -322,6 +322,10 @@ final class DeedBounds extends Bounds {
     x.soup(-1);
     x.cold(10);
     x.undo(2);
+    HandsHeld weak = of("hall must 1; person side 0 strength 0;");
+    due("hour(1)", weak.hour(1), -12);
+    due("count(7)", weak.count(7), 0);
+    due("undo(1)", weak.undo(1), -3);
     tray(x, 0, 0, 4, 3);
     due("perform(0)", x.perform(0), 0);
     x.numbers(1, 0, 0);

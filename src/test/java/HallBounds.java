@@ -227,6 +227,17 @@ final class HallBounds extends Bounds {
     due("person(0, 1)", x.person(0, 1), 2);
   }
 
+  static void promise03_traysAndImagesStay() {
+    HandsHeld x = lived();
+    tell(x, "hall must 3; person side 1;");
+    due("a tray stays", x.judge(0, 0), 2);
+    due("a tray stays", x.write(3, 39, 7), 7);
+    due("a tray is missing still", x.judge(2, 0), -6);
+    due("an image stays", x.restore(0), 0);
+    due("strengths", strengths(x), 203);
+    due("no image still", x.restore(1), -5);
+  }
+
   static void promise03_lawsOfAnOlderHallAreGone() {
     HandsHeld x = of("hall must 1; person side 0 strength 2 weight 5 rod; tires: 0;"
         + " counts: 1 = 2;");
@@ -621,6 +632,7 @@ final class HallBounds extends Bounds {
   static void promise07_likeIsNeitherLessNorMore() {
     truth("3 = 3", 1);
     truth("3 = 4", 0);
+    truth("4 = 3", 0);
     truth("3 < 3", 0);
     truth("3 < 4", 1);
     truth("4 < 3", 0);

@@ -442,6 +442,15 @@ final class TrayBounds extends Bounds {
     for (int what = 0; what < 10; what++) {
       due("count(" + what + ")", x.count(what), want[what]);
     }
+    x.change(0);
+    x.soup(1);
+    x.cold(9);
+    x.hour(0);
+    tell(x, "hall must 1");
+    int[] then = {3, 1, 5, 11, 7, 9, 2, 8, 0, 5};
+    for (int what = 0; what < 10; what++) {
+      due("count(" + what + ") then", x.count(what), then[what]);
+    }
   }
 
   static void promise40_tenCallsAtMostCanBeUndone() {
