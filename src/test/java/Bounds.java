@@ -221,7 +221,7 @@ abstract class Bounds {
         found.append(' ').append(x.write(t, i, 0x123456789abcdef0L));
       }
     }
-    while (x.count(7) > 0) {
+    for (int i = 0; i < 12 && x.count(7) > 0; i++) {
       found.append("\nundone ").append(x.undo(1)).append(' ');
       counts(x, found);
     }

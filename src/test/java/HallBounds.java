@@ -90,7 +90,7 @@ final class HallBounds extends Bounds {
   static void promise02_moreThanNineHundredAreRefused() {
     Maker full = () -> {
       HandsHeld x = lived();
-      while (x.count(8) < 900) {
+      for (int i = 0; i < 45 && x.count(8) < 900; i++) {
         x.feed(0x20202020, 0x20202020, 0x20202020, 0x20202020, 0x20202020);
       }
       return x;
