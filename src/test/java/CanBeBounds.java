@@ -294,6 +294,12 @@ final class CanBeBounds extends Bounds {
         1, 1, 3);
   }
 
+  static void promise25_oneSetThatDoesntLoseIsEnough() {
+    // Person 0 alone holds for ever; person 1 doesn't count, and both at once spend one another.
+    holdingOut("hall must 1; person side 0; person side 0 weight 0; person side 1 rod;"
+        + "tires: if mates > 0 then 0 else strength end; counts: weight = 1;", 0, 1, NONE);
+  }
+
   static void promise27_asSoonAsTheWinnerCan() {
     // Both hands of side 1 at once spend side 0, one alone would take longer.
     holdingOut("hall must 1; person side 0 strength 3; person side 1 rod; person side 1 rod;"
