@@ -198,6 +198,13 @@ final class CanBeBounds extends Bounds {
     due("calls", x.count(7), 0);
   }
 
+  static void promise25_allFiveOnOneSide() {
+    holdingOut("hall must 5;" + people(5, "person side 1"), -1, 0, 1);
+    holdingOut("hall must 5;" + people(5, "person side 0"), 1, 31, 1);
+    holdingOut("hall must 5;" + people(4, "person side 1") + "person side 1 strength 0;", 0, 0,
+        NONE);
+  }
+
   static void promise25_withoutPeopleBothLoseAtOnce() {
     HandsHeld x = new HandsHeld();
     due("outcome()", x.outcome(), 0);

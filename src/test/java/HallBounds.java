@@ -654,6 +654,12 @@ final class HallBounds extends Bounds {
     truth("not 1 = 2", 1);
     truth("not not 1 = 1", 1);
     truth("not not not 1 = 1", 0);
+    truth("1 = 1 and not 1 = 1", 0);
+    truth("1 = 1 and not 1 = 2", 1);
+    truth("1 = 2 or not 1 = 1", 0);
+    truth("1 = 2 or not 1 = 2", 1);
+    truth("if 1 = 1 then 2 else 3 end = 2 and not [1 = 1 and not 1 = 2]", 0);
+    truth("1 + if not 1 = 1 then 2 else 3 end = 4", 1);
     truth("1 = 2 or 1 = 2 or 1 = 1", 1);
     truth("1 = 2 or 1 = 2 or 1 = 2 or 1 = 1", 1);
     truth("1 = 1 and 1 = 1 and 1 = 2", 0);

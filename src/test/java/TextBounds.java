@@ -329,6 +329,12 @@ final class TextBounds extends Bounds {
       fault("hall must 1;tires:1*" + word + ";", 2, 20);
       fault("hall must 1;counts:1=" + word + ";", 2, 21);
     }
+    for (String word : new String[] {"hall", "must", "tires", "counts", "then", "else", "end",
+        "and", "or", "glove", "nots", "no", "x"}) {
+      fault("hall must 1;counts:" + word + " 1=1;", 2, 19);
+      fault("hall must 1;counts:1=1 and " + word + " 1=1;", 2, 27);
+      fault("hall must 1;tires:if " + word + " 1=1 then 1 else 2 end;", 2, 21);
+    }
   }
 
   static void promise04_noOtherWordBeginsALine() {
